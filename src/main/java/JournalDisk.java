@@ -376,12 +376,13 @@ public final class JournalDisk {
         Handle grip = needOpen(handle);
         needRange(length, 1, FILE_BYTES);
         Node file = live.at(grip.node);
-        int end = Math.min(grip.position + length, file.size);
+        int from = grip.position;
+        int end = Math.min(from + length, file.size);
         int sum = 0;
-        while (grip.position < end) {
-            sum = (31 * sum + live.byteOf(file, grip.position) + 1) % 1000003;
-            grip.position++;
+        for (int place = from; place < end; place++) {
+            sum = (31 * sum + live.byteOf(file, place) + 1) % 1000003;
         }
+        grip.position = Math.max(from, end);
         return sum;
     }
 

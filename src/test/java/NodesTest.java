@@ -249,9 +249,19 @@ public final class NodesTest {
         d.write(1, 1, 0);
         Check.is(d.blocksOf(7), 1);
         Check.is(d.sameBytes(6, 7), true);
-        d.seek(1, 18);
+        d.seek(1, 0);
         d.write(1, 1, 1);
         Check.is(d.sameBytes(6, 7), false);
+        d.seek(1, 0);
+        d.write(1, 1, 0);
+        Check.is(d.sameBytes(6, 7), true);
+        d.seek(1, 19);
+        d.write(1, 1, 1);
+        Check.is(d.sameBytes(6, 7), false);
+        // Without bytes a file is still no folder and no link.
+        d.truncate(7, 0);
+        Check.is(d.sameBytes(7, 0), false);
+        Check.is(d.sameBytes(4, 7), false);
         Check.is(d.sameBytes(0, 0), false);
         Check.is(d.sameBytes(4, 4), false);
         Check.is(d.sameBytes(1, 2), false);
