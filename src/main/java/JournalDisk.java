@@ -80,23 +80,13 @@ public final class JournalDisk {
     public int makeFile(int folder, int name)
             throws IllegalStateException, IndexOutOfBoundsException, IllegalArgumentException {
         needEntry(folder, name);
-        int hindrance = hindranceToMake(folder, name);
-        if (hindrance != NOTHING) {
-            return hindrance;
-        }
-        startDraft();
-        return settle(draft.make(FILE, folder, name));
+        return makeEmpty(FILE, folder, name);
     }
 
     public int makeFolder(int folder, int name)
             throws IllegalStateException, IndexOutOfBoundsException, IllegalArgumentException {
         needEntry(folder, name);
-        int hindrance = hindranceToMake(folder, name);
-        if (hindrance != NOTHING) {
-            return hindrance;
-        }
-        startDraft();
-        return settle(draft.make(FOLDER, folder, name));
+        return makeEmpty(FOLDER, folder, name);
     }
 
     public int makeLink(int folder, int name, int up, int first, int second)
@@ -845,6 +835,15 @@ public final class JournalDisk {
 
     private void startDraft() {
         draft.copyFrom(live);
+    }
+
+    private int makeEmpty(int sort, int folder, int name) {
+        int hindrance = hindranceToMake(folder, name);
+        if (hindrance != NOTHING) {
+            return hindrance;
+        }
+        startDraft();
+        return settle(draft.make(sort, folder, name));
     }
 
     // Takes an entry of the draft away, if it is there, and its node if nothing keeps that any more.
