@@ -54,6 +54,29 @@ final class Check {
         }
     }
 
+    /** Compares answers of any kind by their texts. */
+    static void same(String what, Object got, Object want) {
+        if (!String.valueOf(got).equals(String.valueOf(want))) {
+            tell(what + "answered " + got + ", due is " + want);
+        }
+    }
+
+    /** Compares texts of many rows, and tells the first one that is other. */
+    static void sameRows(String got, String want) {
+        if (got.equals(want)) {
+            return;
+        }
+        String[] gotRows = got.split("\n");
+        String[] wantRows = want.split("\n");
+        for (int k = 0; k < Math.min(gotRows.length, wantRows.length); k++) {
+            if (!gotRows[k].equals(wantRows[k])) {
+                tell("to be seen is: " + gotRows[k] + "; due is: " + wantRows[k]);
+                return;
+            }
+        }
+        tell("to be seen are " + gotRows.length + " rows, due are " + wantRows.length);
+    }
+
     static void state(Call call) {
         thrown(call, IllegalStateException.class);
     }
@@ -107,8 +130,10 @@ final class Check {
 
     private static String line(StackTraceElement[] trace) {
         for (StackTraceElement e : trace) {
-            if (!e.getClassName().startsWith("Check") && !e.getClassName().startsWith("JournalDisk")
-                    && !e.getClassName().startsWith("java.") && !e.getClassName().startsWith("Given")) {
+            String from = e.getClassName();
+            if (!from.startsWith("Check") && !from.startsWith("JournalDisk") && !from.startsWith("java.")
+                    && !from.startsWith("Given") && !from.startsWith("Bounds") && !from.startsWith("Picture")
+                    && !from.equals("Scene")) {
                 return e.getFileName() + ":" + e.getLineNumber();
             }
         }

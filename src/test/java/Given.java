@@ -24,10 +24,14 @@ final class Given {
     /** The files 1 to 6 in the ROOT, named so, with which 120 BLOCKS are USED: 2 of the ROOT, 18 of file 6. */
     static JournalDisk full() {
         JournalDisk disk = new JournalDisk();
+        full(disk);
+        return disk;
+    }
+
+    static void full(JournalDisk disk) {
         for (int n = 1; n <= 6; n++) {
             file(disk, 0, n, n == 6 ? 288 : 320);
         }
-        return disk;
     }
 
     /** 32 nodes: the ROOT with 12 ENTRIES, the folders 1 and 2 in it with 10 and 9 (named from 10 on), and links. */
