@@ -364,6 +364,14 @@ public final class EdgesOfNodesTest {
                 Bounds.tells(Scenes.USUAL, d -> d.sameBytes(second, node), false);
             }
         }
+        // Nor a file without bytes beside a folder without ENTRIES, or a link without names.
+        Scene none = Scenes.entries(0).then(d -> d.makeLink(0, 3, 0, 0, 0));
+        for (int node : new int[] {2, 3}) {
+            Bounds.tells(none, d -> d.sameBytes(1, node), false);
+            Bounds.tells(none, d -> d.sameBytes(node, 1), false);
+            Bounds.tells(none, d -> d.sameBytes(node, node), false);
+        }
+        Bounds.tells(none, d -> d.sameBytes(1, 1), true);
         Bounds.noNode((d, x) -> d.sameBytes(x, 0));
         Bounds.noNode((d, x) -> d.sameBytes(0, x));
         Bounds.noNode((d, x) -> d.sameBytes(x, x));
