@@ -147,19 +147,19 @@ public final class EdgesOfTermsTest {
     // ---- point 2
 
     private static void sizes() {
-        JournalDisk d = new JournalDisk();
-        Given.file(d, 0, 1, 320);
-        Check.is(d.sizeOf(1), 320);
-        int[] sizes = {319, 305, 304, 303, 17, 16, 15, 1, 0};
-        for (int size : sizes) {
-            d.truncate(1, size);
-            for (int place = 0; place < 320; place++) {
-                Check.is(d.byteAt(1, place), place < size ? (place + 1) % 256 : 0);
+        // Shorter by and by, and then as long as at first.
+        int[] sizes = {320, 319, 305, 304, 303, 17, 16, 15, 1, 0};
+        for (int last = 0; last < sizes.length; last++) {
+            JournalDisk d = new JournalDisk();
+            Given.file(d, 0, 1, 320);
+            for (int k = 0; k <= last; k++) {
+                d.truncate(1, sizes[k]);
+                Check.is(d.sizeOf(1), sizes[k]);
             }
-        }
-        d.truncate(1, 320);
-        for (int place = 0; place < 320; place++) {
-            Check.is(d.byteAt(1, place), 0);
+            d.truncate(1, 320);
+            for (int place = 0; place < 320; place++) {
+                Check.is(d.byteAt(1, place), place < sizes[last] ? (place + 1) % 256 : 0);
+            }
         }
     }
 
