@@ -16,6 +16,8 @@ public final class JournalDisk {
     private static final int USERS = 4;
     private static final int PLACES = 20;
     private static final int BLOCK_BYTES = 16;
+    private static final int WORD_BYTES = 8;
+    private static final int BLOCK_WORDS = 2;
     private static final int FILE_BYTES = 320;
     private static final int MOST_WRITTEN = 64;
     private static final int WRITTEN_BACK = 50;
@@ -1059,7 +1061,8 @@ public final class JournalDisk {
         final Node[] nodes = new Node[MOST_NODES];
         final Node nobody = new Node();
         final int[] quotas = new int[USERS];
-        final int[] bytes = new int[POOL * BLOCK_BYTES];
+        // Eight bytes to a word: room is counted by elements, however long these are.
+        final long[] words = new long[POOL * BLOCK_WORDS];
         final int[] holders = new int[POOL];
         int made = 0;
         // Rows to reckon with, made once.
@@ -1081,7 +1084,7 @@ public final class JournalDisk {
                 nodes[n].copyFrom(other.at(n));
             }
             System.arraycopy(other.quotas, 0, quotas, 0, USERS);
-            System.arraycopy(other.bytes, 0, bytes, 0, POOL * BLOCK_BYTES);
+            System.arraycopy(other.words, 0, words, 0, POOL * BLOCK_WORDS);
             System.arraycopy(other.holders, 0, holders, 0, POOL);
             made = other.made;
         }
@@ -1207,7 +1210,7 @@ public final class JournalDisk {
             }
             int fresh = freeBlock();
             if (isBlock(fresh) && before >= HOLE && before < POOL) {
-                System.arraycopy(bytes, before * BLOCK_BYTES, bytes, fresh * BLOCK_BYTES, BLOCK_BYTES);
+                System.arraycopy(words, before * BLOCK_WORDS, words, fresh * BLOCK_WORDS, BLOCK_WORDS);
                 put(file, place, fresh);
             }
             return fresh;
@@ -1222,16 +1225,27 @@ public final class JournalDisk {
             return HOLE;
         }
 
+        // The word of a block in which a byte of a file is.
+        static int wordOf(int block, int place) {
+            return block * BLOCK_WORDS + place % BLOCK_BYTES / WORD_BYTES;
+        }
+
+        // Where in its word a byte of a file begins.
+        static int shiftOf(int place) {
+            return place % WORD_BYTES * 8;
+        }
+
         int byteOf(Node file, int place) {
-            int index = file.blockAt(place / BLOCK_BYTES) * BLOCK_BYTES + place % BLOCK_BYTES;
-            return index >= 0 && index < bytes.length ? bytes[index] : 0;
+            int word = wordOf(file.blockAt(place / BLOCK_BYTES), place);
+            return word >= 0 && word < words.length ? (int) (words[word] >>> shiftOf(place) & 255L) : 0;
         }
 
         void setByte(Node file, int place, int value) {
             int block = ownBlock(file, place / BLOCK_BYTES);
-            int index = block * BLOCK_BYTES + place % BLOCK_BYTES;
-            if (isBlock(block) && index >= 0 && index < bytes.length) {
-                bytes[index] = value;
+            int word = wordOf(block, place);
+            if (isBlock(block) && word >= 0 && word < words.length) {
+                int shift = shiftOf(place);
+                words[word] = words[word] & ~(255L << shift) | (long) value << shift;
             }
         }
 

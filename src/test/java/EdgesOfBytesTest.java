@@ -7,6 +7,7 @@ public final class EdgesOfBytesTest {
         Check.test("promise 11: it is DOWN", () -> Bounds.down(d -> d.write(9, 0, 300)));
         Check.test("promise 11: -5 with an end at 319, 320, 321", EdgesOfBytesTest::writeEnd);
         Check.test("promise 11: all places that are touched", EdgesOfBytesTest::writePlaces);
+        Check.test("promise 11: a byte that is written over, and those beside it", EdgesOfBytesTest::writeOver);
         Check.test("promise 11: SIZE is where they end, if it was less", EdgesOfBytesTest::writeSize);
         Check.test("promise 11: the POSITION is behind them", EdgesOfBytesTest::writePosition);
         Check.test("promise 11: a HOLE gets zeros", EdgesOfBytesTest::writeHole);
@@ -119,6 +120,23 @@ public final class EdgesOfBytesTest {
             for (int at = 0; at < 320; at++) {
                 boolean isWritten = at >= row[0] && at < row[0] + row[1];
                 Check.is(d.byteAt(1, at), isWritten ? at - row[0] + 1 : 0);
+            }
+        }
+    }
+
+    private static void writeOver() {
+        int[][] values = {{255, 0}, {0, 255}, {255, 127}, {128, 1}, {170, 85}, {1, 254}};
+        for (int[] row : values) {
+            for (int at = 0; at < 64; at++) {
+                JournalDisk d = file(0, 0).made();
+                for (int k = 0; k < 64; k++) {
+                    d.write(0, 1, row[0]);
+                }
+                d.seek(0, at);
+                Check.is(d.write(0, 1, row[1]), 64);
+                for (int k = 0; k < 64; k++) {
+                    Check.is(d.byteAt(1, k), k == at ? row[1] : row[0]);
+                }
             }
         }
     }

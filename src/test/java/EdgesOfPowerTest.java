@@ -39,6 +39,7 @@ public final class EdgesOfPowerTest {
         Check.test("promise 34: it is not DOWN", EdgesOfPowerTest::mountUp);
         Check.test("promise 34: 0, 1, 6 ORPHANs are removed, and this lasts", EdgesOfPowerTest::mountOrphans);
         Check.test("promise 34: all is as it was behind the latest COMMIT", EdgesOfPowerTest::mountBack);
+        Check.test("promise 34: each byte of 120 BLOCKS is as it was", EdgesOfPowerTest::mountFull);
         Check.test("promise 35: behind each call with a FALL", EdgesOfPowerTest::downAfter);
         Check.test("promise 36: a mount() that fails is none", EdgesOfPowerTest::mountsCounted);
         Check.test("promise 37: it is DOWN", () -> Bounds.down(JournalDisk::waiting));
@@ -458,6 +459,22 @@ public final class EdgesOfPowerTest {
         Scene nine = waits(7).then(d -> d.setQuota(2, 1)).then(d -> d.setQuota(2, 2));
         Bounds.tells(back(nine), d -> d.quotaOf(2), 1);
         Bounds.tells(back(nine), JournalDisk::changes, 14);
+    }
+
+    private static void mountFull() {
+        for (int file = 1; file <= 6; file++) {
+            JournalDisk d = Given.full();
+            d.sync();
+            d.truncate(file, 0);
+            d.cut();
+            d.mount();
+            Check.is(d.used(), 120);
+            int size = file == 6 ? 288 : 320;
+            Check.is(d.sizeOf(file), size);
+            for (int at = 0; at < 320; at++) {
+                Check.is(d.byteAt(file, at), at < size ? (at + 1) % 256 : 0);
+            }
+        }
     }
 
     private static void downAfter() {
